@@ -834,15 +834,11 @@ public final class ShelfNights {
             night = other.night;
         }
 
-        /** The pages are wiped, as restore() may have left those of a BOOK that is no more. */
+        /** Its PAGES and GLASS are as at first already, as copyFrom() copies those of BOOKS that are not there, too. */
         int addBook(int itsKind, int itsM) {
             int book = books;
             kind[book] = itsKind;
             m[book] = itsM;
-            glass[book] = false;
-            for (int i = 0; i < PAGES; i++) {
-                pages[book * PAGES + i] = 0;
-            }
             row[book] = book;
             books++;
             return book;

@@ -6,17 +6,38 @@ final class Due {
     static final int FULL = -1000000004;
     static final int KIND = -1000000005;
 
+    private static String test = "";
     private static int asked = 0;
     private static int wrong = 0;
+
+    /** What is asked from now on is told with the name of this test. */
+    static void begin(String name) {
+        test = name + ": ";
+    }
 
     static void is(String what, long got, long want) {
         asked++;
         if (got != want) {
-            wrong++;
-            if (wrong <= 30) {
-                System.out.println(what + " answered " + got + ", due is " + want);
-            }
+            tellWrong(what + " answered " + got + ", due is " + want);
         }
+    }
+
+    static void is(String what, String got, String want) {
+        asked++;
+        if (!got.equals(want)) {
+            tellWrong(what + " answered\n  " + got + ", due is\n  " + want);
+        }
+    }
+
+    private static void tellWrong(String line) {
+        wrong++;
+        if (wrong <= 30) {
+            System.out.println(test + line);
+        }
+    }
+
+    static int askedSoFar() {
+        return asked;
     }
 
     static int wrongSoFar() {
